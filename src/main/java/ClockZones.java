@@ -683,6 +683,9 @@ public final class ClockZones {
             }
             for (int i = 0; i < CLOCKS; i++) {
                 int start = sum(bounds[CLOCKS * i + x], bound);
+                if (start == OPEN) {
+                    continue;
+                }
                 for (int j = 0; j < CLOCKS; j++) {
                     int through = sum(start, bounds[CLOCKS * y + j]);
                     if (through < bounds[CLOCKS * i + j]) {
@@ -728,8 +731,12 @@ public final class ClockZones {
         private void close() {
             for (int z = 0; z < CLOCKS; z++) {
                 for (int x = 0; x < CLOCKS; x++) {
+                    int start = bounds[CLOCKS * x + z];
+                    if (start == OPEN) {
+                        continue;
+                    }
                     for (int y = 0; y < CLOCKS; y++) {
-                        int through = sum(bounds[CLOCKS * x + z], bounds[CLOCKS * z + y]);
+                        int through = sum(start, bounds[CLOCKS * z + y]);
                         if (through < bounds[CLOCKS * x + y]) {
                             bounds[CLOCKS * x + y] = through;
                         }
