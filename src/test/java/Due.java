@@ -3,8 +3,14 @@ final class Due {
     private static final int MOST_PRINTED = 40;
     private static int asked = 0;
     private static int wrong = 0;
+    private static String heading = "";
 
     private Due() {
+    }
+
+    /** What stands ahead of the answers that are printed from here on. */
+    static void heading(String words) {
+        heading = words;
     }
 
     static void be(String call, long got, long want) {
@@ -14,7 +20,7 @@ final class Due {
         }
         wrong++;
         if (wrong <= MOST_PRINTED) {
-            System.out.println(call + " answered " + got + ", due is " + want);
+            System.out.println(heading + call + " answered " + got + ", due is " + want);
         }
     }
 

@@ -1,356 +1,353 @@
-/** Promises 6 to 10: states, their bounds, and what is asked of them. */
+/** Promises 6 to 10: that states are met, and what is asked of them. */
 public final class ExploreTest {
     private static final int NONE = ClockZones.NONE;
     private static final int UNKNOWN = ClockZones.UNKNOWN;
     private static final int OUTSIDE = ClockZones.OUTSIDE;
+    private static final int STATE = ClockZones.STATE;
     private static final int FULL = ClockZones.FULL;
     private static final int OPEN = 100000;
     private static final int LEAST = Integer.MIN_VALUE;
     private static final int MOST = Integer.MAX_VALUE;
 
     public static void main(String[] args) {
-        emptyNet();
-        noFirstState();
-        firstStateKeepsLimits();
-        guardsAndResets();
-        everySort();
-        limitsBehindAMove();
-        widening();
-        wideningBeyond();
-        orderOfMoves();
-        coveredStates();
-        emptyMoves();
-        longestWay();
-        howManyAreKept();
+        Said.in("Promise 6: explore");
+        howMany();
+        metAnew();
+        oneMoreThanN();
+        answersThatLookLikeRefusals();
+        numbersOfN();
+        thoseAreKept();
         howOften();
+        exploreRefusals();
+        Said.in("Promise 7: state");
+        facts();
+        stateRefusals();
+        Said.in("Promise 8: bound");
+        bounds();
+        boundOfAClockLessItself();
+        boundRefusals();
+        Said.in("Promise 9: reach");
         reach();
+        reachRefusals();
+        Said.in("Promise 10: has");
         has();
-        refusals();
-        Due.done();
+        hasAtTheMost();
+        hasRefusals();
+        Said.done();
     }
 
-    private static void bounds(String name, ClockZones x, int i, int[] due) {
+    /** An explored net of which not even state 0 is met. */
+    private static ClockZones stateless() {
+        ClockZones x = new ClockZones();
+        x.limit(2, 0, 3, 0, 0);
+        x.explore(120);
+        return x;
+    }
+
+    // ---- promise 6
+
+    private static void howMany() {
+        Said.that("STATES are met anew, as told: how many;");
+        Due.be("an empty net", new ClockZones().explore(120), 1);
+        ClockZones none = new ClockZones();
+        none.limit(2, 0, 3, 0, 0);
+        Due.be("below 0", none.explore(120), 0);
+        Due.be("below 0: count(3)", none.count(3), 0);
+        Due.be("below 0: count(5)", none.count(5), 0);
+        Due.be("walkers", Nets.walkers(3, 3, 3).explore(120), 27);
+        Due.be("as many as there may be", Nets.walkers(6, 5, 4).explore(120), 120);
+        Due.be("a chain", Nets.chain().explore(120), 41);
+        Due.be("20 edges, 100 moves", Nets.full().count(3), 1);
+    }
+
+    private static void metAnew() {
+        ClockZones x = Nets.walkers(2, 2, 1);
+        Due.be("four", x.explore(120), 4);
+        Due.be("four again", x.explore(120), 4);
+        x.edge(2, 0, 1, 0, 0);
+        Due.be("eight", x.explore(120), 8);
+        Due.be("state(7, 2)", x.state(7, 2), 1);
+        x.wipe();
+        Due.be("one", x.explore(120), 1);
+        Due.be("state(1, 0)", x.state(1, 0), UNKNOWN);
+        Due.be("bound(1, 0, 0)", x.bound(1, 0, 0), 100002);
+        x.limit(0, 0, 1, 0, 0);
+        Due.be("none", x.explore(120), 0);
+        Due.be("state(0, 0)", x.state(0, 0), UNKNOWN);
+        Due.be("reach(-1, -1, -1)", x.reach(-1, -1, -1), NONE);
+    }
+
+    private static void oneMoreThanN() {
+        Said.that("-1 less n, if one more than n would be met");
+        Due.be("1 of 1", Nets.walkers(1, 1, 1).explore(1), 1);
+        Due.be("1 of 2", Nets.walkers(2, 1, 1).explore(1), -2);
+        Due.be("2 of 2", Nets.walkers(2, 1, 1).explore(2), 2);
+        Due.be("40 of 41", Nets.chain().explore(40), -41);
+        Due.be("41 of 41", Nets.chain().explore(41), 41);
+        Due.be("119 of 120", Nets.walkers(6, 5, 4).explore(119), -120);
+        Due.be("120 of 120", Nets.walkers(6, 5, 4).explore(120), 120);
+        Due.be("120 of 150", Nets.walkers(6, 5, 5).explore(120), -121);
+        ClockZones none = new ClockZones();
+        none.limit(0, 0, 1, 0, 0);
+        Due.be("1 of 0", none.explore(1), 0);
+    }
+
+    /** -1 less n may be the same number as a refusal: it is done all the same. */
+    private static void answersThatLookLikeRefusals() {
+        ClockZones x = Nets.walkers(6, 5, 4);
+        for (int n = 99; n <= 104; n++) {
+            Due.be("explore(" + n + ")", x.explore(n), -1 - n);
+            Due.be("count(3)", x.count(3), n);
+            Due.be("count(6)", x.count(6), n - 98);
+        }
+    }
+
+    private static void numbersOfN() {
+        Said.that("(n is 1 to 120;");
+        ClockZones x = new ClockZones();
+        for (int bad : new int[] {0, -1, 121, LEAST, MOST}) {
+            Due.be("explore(" + bad + ")", x.explore(bad), OUTSIDE);
+        }
+        Due.be("count(6)", x.count(6), 0);
+        Due.be("count(5)", x.count(5), 1);
+        Due.be("explore(1)", x.explore(1), 1);
+        Due.be("explore(120)", x.explore(120), 1);
+        Due.be("count(6)", x.count(6), 2);
+    }
+
+    private static void thoseAreKept() {
+        Said.that("then those n are kept).");
+        for (int n : new int[] {1, 2, 7, 119}) {
+            ClockZones all = Nets.walkers(6, 5, 4);
+            all.explore(120);
+            ClockZones x = Nets.walkers(6, 5, 4);
+            x.explore(n);
+            String name = n + " kept: ";
+            Due.be(name + "count(3)", x.count(3), n);
+            Due.be(name + "count(5)", x.count(5), 0);
+            Due.be(name + "one more", x.state(n, 0), UNKNOWN);
+            Due.be(name + "the last of all", x.reach(5, 4, 3), NONE);
+            for (int i = Math.max(0, n - 12); i < n; i++) {
+                for (int what = 0; what < 7; what++) {
+                    Due.be(name + "state(" + i + ", " + what + ")", x.state(i, what), all.state(i, what));
+                }
+                for (int k = 0; k < 16; k++) {
+                    Due.be(name + "bound(" + i + ", " + k / 4 + ", " + k % 4 + ")",
+                        x.bound(i, k / 4, k % 4), all.bound(i, k / 4, k % 4));
+                }
+            }
+        }
+        ClockZones more = Nets.walkers(6, 5, 5);
+        more.explore(120);
+        Due.be("120 kept: count(3)", more.count(3), 120);
+        Due.be("120 kept: the last of them", more.state(119, 6) > 0 ? 1 : 0, 1);
+        Due.be("120 kept: one more", more.state(120, 6), UNKNOWN);
+    }
+
+    private static void howOften() {
+        Said.that("FULL: it was done 40 times.");
+        ClockZones x = Nets.walkers(2, 1, 1);
+        for (int i = 0; i < 40; i++) {
+            if (i == 20) {
+                x.wipe();
+                x.edge(0, 0, 1, 0, 0);
+            }
+            Due.be("refused ones do not count", x.explore(0), OUTSIDE);
+            Due.be("one that stops counts", x.explore(1 + i % 2), i % 2 == 0 ? -2 : 2);
+            Due.be("count(6)", x.count(6), i + 1);
+        }
+        Due.be("the 41st", x.explore(1), FULL);
+        Due.be("the states stay", x.count(3), 2);
+        Due.be("count(5)", x.count(5), 0);
+        Due.be("count(6)", x.count(6), 40);
+        x.wipe();
+        Due.be("behind wipe()", x.explore(3), FULL);
+        Due.be("behind wipe(): count(5)", x.count(5), 1);
+        Due.be("behind wipe(): state(0, 0)", x.state(0, 0), STATE);
+        Due.be("another object", new ClockZones().explore(3), 1);
+    }
+
+    private static void exploreRefusals() {
+        Said.that("OUTSIDE;");
+        Refusals.Call explore = (x, a) -> x.explore(a[0]);
+        Refusals.Rule outside = a -> Refusals.in(a[0], 1, 120) ? Refusals.ALLOWED : OUTSIDE;
+        int[] n = {1, 120, 0, -1, 121, LEAST, MOST};
+        Nets.each((name, maker) -> Refusals.all(name + "explore", maker, explore,
+            name.startsWith("full") ? a -> Refusals.in(a[0], 1, 120) ? FULL : OUTSIDE : outside, n));
+    }
+
+    // ---- promise 7
+
+    private static void facts(String name, ClockZones x, int i, int... due) {
+        for (int what = 0; what < 7; what++) {
+            Due.be(name + ": state(" + i + ", " + what + ")", x.state(i, what), due[what]);
+        }
+    }
+
+    private static void facts() {
+        Said.that("Of a STATE: what = 0 to 2 the PLACE of that MACHINE, 3 the STATE from which it was met"
+            + " (NONE), 4, 5 the MOVE (NONE), 6 how many MOVES its WAY has.");
+        ClockZones x = new ClockZones();
+        x.explore(1);
+        facts("empty net", x, 0, 0, 0, 0, NONE, NONE, NONE, 0);
+        x.edge(2, 0, 5, -4, 0);
+        x.edge(0, 5, 4, 0, 0);
+        x.edge(0, 0, 5, 0, 0);
+        x.edge(1, 0, 3, 4, 0);
+        Due.be("explore(120)", x.explore(120), 6);
+        facts("first", x, 0, 0, 0, 0, NONE, NONE, NONE, 0);
+        facts("alone", x, 1, 5, 0, 0, 0, 2, NONE, 1);
+        facts("two at once", x, 2, 0, 3, 5, 0, 3, 0, 1);
+        facts("a way of two", x, 3, 4, 0, 0, 1, 1, NONE, 2);
+        facts("both ways", x, 4, 5, 3, 5, 1, 3, 0, 2);
+        facts("the last", x, 5, 4, 3, 5, 3, 3, 0, 3);
+        ClockZones chain = Nets.chain();
+        chain.explore(120);
+        facts("the longest way", chain, 40, 0, 0, 0, 39, 0, NONE, 40);
+    }
+
+    private static int stateDue(int[] a, int states) {
+        if (!Refusals.in(a[0], 0, states - 1)) {
+            return UNKNOWN;
+        }
+        return Refusals.in(a[1], 0, 6) ? Refusals.ALLOWED : OUTSIDE;
+    }
+
+    private static void stateRefusals() {
+        Refusals.Call state = (x, a) -> x.state(a[0], a[1]);
+        int[] whats = Refusals.around(0, 6);
+        Said.that("STATE;");
+        Refusals.all("new: state", ClockZones::new, state, a -> STATE, Refusals.around(0, 119), whats);
+        Refusals.all("walked: state", Nets::walked, state, a -> STATE, Refusals.around(0, 119), whats);
+        Said.that("UNKNOWN;");
+        Refusals.all("none: state", ExploreTest::stateless, state, a -> UNKNOWN,
+            Refusals.around(0, 119), whats);
+        Said.that("OUTSIDE.");
+        Refusals.all("full: state", Nets::full, state, a -> stateDue(a, 1), Refusals.around(0, 0), whats);
+        Refusals.all("chain: state", ExploreTest::explored120, state, a -> stateDue(a, 120),
+            Refusals.around(0, 119), whats);
+    }
+
+    private static ClockZones explored120() {
+        ClockZones x = Nets.walkers(6, 5, 4);
+        x.explore(120);
+        return x;
+    }
+
+    // ---- promise 8
+
+    private static void bounds(String name, ClockZones x, int i, int... due) {
         for (int k = 0; k < 16; k++) {
             Due.be(name + ": bound(" + i + ", " + k / 4 + ", " + k % 4 + ")",
                 x.bound(i, k / 4, k % 4), due[k]);
         }
     }
 
-    private static void facts(String name, ClockZones x, int i, int[] due) {
-        for (int what = 0; what < 7; what++) {
-            Due.be(name + ": state(" + i + ", " + what + ")", x.state(i, what), due[what]);
-        }
-    }
-
-    private static void emptyNet() {
+    private static void bounds() {
+        Said.that("The BOUND of CLOCK x less CLOCK y (0 to 3) in the ZONE of a STATE: twice the number,"
+            + " and 1, if it may be just that; 100000: none.");
         ClockZones x = new ClockZones();
-        Due.be("empty: explore(1)", x.explore(1), 1);
-        facts("empty", x, 0, new int[] {0, 0, 0, NONE, NONE, NONE, 0});
-        bounds("empty", x, 0, new int[] {
-            1, 1, 1, 1, OPEN, 1, 1, 1, OPEN, 1, 1, 1, OPEN, 1, 1, 1});
-        Due.be("empty: count(3)", x.count(3), 1);
-        Due.be("empty: count(5)", x.count(5), 0);
-        Due.be("empty: count(6)", x.count(6), 1);
-    }
-
-    private static void noFirstState() {
-        ClockZones x = new ClockZones();
-        x.limit(2, 0, 3, 0, 0);
-        Due.be("below 0: explore(120)", x.explore(120), 0);
-        Due.be("below 0: count(5)", x.count(5), 0);
-        Due.be("below 0: state(0, 0)", x.state(0, 0), UNKNOWN);
-        Due.be("below 0: bound(0, 0, 0)", x.bound(0, 0, 0), 100002);
-        Due.be("below 0: has(0, 0, 0, 0)", x.has(0, 0, 0, 0), UNKNOWN);
-        Due.be("below 0: reach(0, 0, 0)", x.reach(0, 0, 0), NONE);
-        Due.be("below 0: way(0, 0, 0)", x.way(0, 0, 0), UNKNOWN);
-        Due.be("below 0: moment(0, 0)", x.moment(0, 0), UNKNOWN);
-    }
-
-    private static void firstStateKeepsLimits() {
-        ClockZones x = new ClockZones();
-        x.limit(0, 0, 1, 1, 0);
-        x.limit(1, 0, 2, 0, 1000);
-        x.explore(5);
-        bounds("limits", x, 0, new int[] {1, 1, 1, 1, 1, 1, 1, 1, 1, 1, 1, 1, 1, 1, 1, 1});
-        x.wipe();
-        x.limit(1, 0, 2, 0, 1000);
-        x.explore(5);
-        bounds("limits", x, 0, new int[] {
-            1, 1, 1, 1, 2000, 1, 1, 1, 2000, 1, 1, 1, 2000, 1, 1, 1});
-    }
-
-    private static void guardsAndResets() {
-        ClockZones x = new ClockZones();
-        x.edge(1, 0, 3, 0, 4);
-        x.guard(0, 1, 4, 2);
-        x.guard(0, 1, 1, 6);
-        x.limit(1, 3, 2, 1, 5);
-        Due.be("resets: explore(9)", x.explore(9), 2);
-        facts("resets", x, 1, new int[] {0, 3, 0, 0, 0, NONE, 1});
-        // Clock 1 is above 2 and at most 6 when clock 2 is set back. Clock 3 has no test: what is
-        // widened of it is told again by clock 1, from which it never differs.
-        bounds("resets", x, 1, new int[] {
-            1, -4, 1, -4,
-            23, 1, 13, 1,
-            11, -4, 1, -4,
-            23, 1, 13, 1});
-    }
-
-    private static void everySort() {
-        int[] most = {18, 19, 19, OPEN, OPEN};
-        int[] least = {1, 1, -17, -17, -18};
+        x.explore(1);
+        bounds("empty net", x, 0, 1, 1, 1, 1, OPEN, 1, 1, 1, OPEN, 1, 1, 1, OPEN, 1, 1, 1);
+        int[] most = {2000, 2001, 2001, OPEN, OPEN};
+        int[] least = {1, 1, -1999, -1999, -2000};
         for (int sort = 0; sort <= 4; sort++) {
-            ClockZones x = new ClockZones();
+            x = new ClockZones();
             x.edge(0, 0, 1, 0, 8);
-            x.guard(0, 2, sort, 9);
+            x.guard(0, 2, sort, 1000);
             Due.be("sort " + sort + ": explore(9)", x.explore(9), 2);
-            Due.be("sort " + sort + ": clock 2 less clock 3", x.bound(1, 2, 3), most[sort]);
-            Due.be("sort " + sort + ": 0 less clock 2", x.bound(1, 0, 2), least[sort]);
-            Due.be("sort " + sort + ": clock 2 less 0", x.bound(1, 2, 0), OPEN);
+            Due.be("sort " + sort + ": bound(1, 2, 3)", x.bound(1, 2, 3), most[sort]);
+            Due.be("sort " + sort + ": bound(1, 0, 2)", x.bound(1, 0, 2), least[sort]);
+            Due.be("sort " + sort + ": bound(1, 3, 2)", x.bound(1, 3, 2), least[sort]);
+            Due.be("sort " + sort + ": bound(1, 2, 0)", x.bound(1, 2, 0), OPEN);
+        }
+        for (int sort = 0; sort <= 1; sort++) {
+            x = new ClockZones();
+            x.limit(0, 0, 3, sort, 1000);
+            x.explore(1);
+            Due.be("limit of sort " + sort + ": bound(0, 3, 0)", x.bound(0, 3, 0), 2000 + sort);
+            Due.be("limit of sort " + sort + ": bound(0, 1, 0)", x.bound(0, 1, 0), 2000 + sort);
         }
     }
 
-    private static void limitsBehindAMove() {
-        ClockZones x = new ClockZones();
-        x.edge(0, 0, 1, 0, 0);
-        x.guard(0, 1, 3, 5);
-        x.limit(0, 1, 1, 0, 5);
-        Due.be("behind: explore(9)", x.explore(9), 1);
-        x.limit(2, 0, 1, 1, 4);
-        x.edge(0, 0, 2, 0, 0);
-        x.edge(0, 0, 2, 0, 0);
-        x.guard(1, 1, 4, 4);
-        Due.be("behind: limits of a machine that stands", x.explore(9), 2);
-        Due.be("behind: state(1, 4)", x.state(1, 4), 2);
-        x.wipe();
-        x.edge(0, 0, 1, 0, 2);
-        x.guard(0, 1, 3, 5);
-        x.limit(0, 1, 1, 1, 0);
-        Due.be("behind: a clock set back first", x.explore(9), 2);
-        Due.be("behind: bound(1, 1, 0)", x.bound(1, 1, 0), 1);
-        Due.be("behind: bound(1, 0, 2)", x.bound(1, 0, 2), 0);
-    }
-
-    private static void widening() {
-        ClockZones x = new ClockZones();
-        x.edge(0, 0, 1, 0, 4);
-        x.guard(0, 1, 2, 3);
-        x.edge(0, 1, 2, 0, 8);
-        x.guard(1, 1, 2, 5);
-        x.guard(1, 2, 2, 2);
-        x.edge(0, 2, 3, 0, 0);
-        x.guard(2, 3, 3, 1);
-        Due.be("widened: explore(9)", x.explore(9), 4);
-        // The greatest numbers are 5, 2 and 1; clock 3 less 2 is told again by clock 1.
-        bounds("widened", x, 1, new int[] {
-            1, -5, 1, -5,
-            OPEN, 1, 7, 1,
-            OPEN, -5, 1, -5,
-            OPEN, 1, 7, 1});
-        bounds("widened", x, 2, new int[] {
-            1, -9, -3, 1,
-            OPEN, 1, 7, 11,
-            OPEN, -5, 1, 5,
-            OPEN, -9, -3, 1});
-        bounds("widened", x, 3, new int[] {
-            1, -11, -5, -1,
-            OPEN, 1, 7, 11,
-            OPEN, -5, 1, 5,
-            OPEN, -9, -3, 1});
-    }
-
-    private static void wideningBeyond() {
-        ClockZones x = new ClockZones();
-        x.edge(0, 0, 1, 0, 2);
-        x.guard(0, 2, 2, 7);
-        x.edge(0, 1, 2, 0, 2);
-        x.guard(1, 1, 2, 3);
-        x.limit(0, 1, 1, 1, 3);
-        x.limit(0, 2, 1, 1, 3);
-        Due.be("beyond: explore(9)", x.explore(9), 3);
-        // Clock 2 is 7 ahead of clock 1, which is no more than 7: it stays.
-        bounds("beyond", x, 1, new int[] {
-            1, 1, -13, -13,
-            7, 1, -13, -13,
-            21, 15, 1, 1,
-            21, 15, 1, 1});
-        // Then it is 10 ahead: beyond 7 nothing is known but that it is above 7.
-        bounds("beyond", x, 2, new int[] {
-            1, 1, -14, -14,
-            7, 1, -14, -14,
-            OPEN, OPEN, 1, 1,
-            OPEN, OPEN, 1, 1});
-    }
-
-    private static void orderOfMoves() {
-        ClockZones x = new ClockZones();
-        x.edge(2, 0, 1, -1, 0);
-        x.edge(1, 0, 2, -1, 0);
-        x.edge(0, 0, 3, 0, 0);
-        x.edge(0, 0, 4, 1, 0);
-        x.edge(1, 0, 5, -1, 0);
-        Due.be("order: count(4)", x.count(4), 4);
-        Due.be("order: explore(120)", x.explore(120), 5);
-        facts("order", x, 1, new int[] {3, 0, 0, 0, 2, NONE, 1});
-        facts("order", x, 2, new int[] {4, 0, 1, 0, 3, 0, 1});
-        facts("order", x, 3, new int[] {4, 2, 0, 0, 3, 1, 1});
-        facts("order", x, 4, new int[] {4, 5, 0, 0, 3, 4, 1});
-    }
-
-    private static void coveredStates() {
-        ClockZones x = new ClockZones();
-        x.edge(0, 0, 1, 0, 0);
-        x.guard(0, 1, 1, 5);
-        x.edge(0, 0, 1, 0, 0);
-        x.guard(1, 1, 1, 4);
-        x.edge(0, 0, 1, 0, 0);
-        x.guard(2, 1, 3, 5);
-        x.edge(0, 0, 1, 0, 0);
-        x.guard(3, 1, 4, 6);
-        Due.be("covered: explore(120)", x.explore(120), 2);
-        x.wipe();
-        x.edge(0, 0, 1, 0, 14);
-        x.guard(0, 1, 2, 5);
-        x.edge(0, 0, 1, 0, 0);
-        x.edge(0, 1, 0, 0, 14);
-        Due.be("covered: a wider zone is met later", x.explore(120), 2);
-        x.wipe();
-        x.edge(0, 0, 1, 0, 0);
-        x.guard(0, 1, 3, 2);
-        x.edge(0, 0, 1, 0, 0);
-        x.guard(1, 1, 3, 1);
-        Due.be("covered: the narrower zone stays", x.explore(120), 3);
-        Due.be("covered: bound(1, 0, 1)", x.bound(1, 0, 1), -3);
-        Due.be("covered: bound(2, 0, 1)", x.bound(2, 0, 1), -1);
-    }
-
-    private static void emptyMoves() {
-        ClockZones x = new ClockZones();
-        x.edge(0, 0, 1, 0, 0);
-        x.guard(0, 1, 0, 3);
-        x.guard(0, 2, 3, 3);
-        x.edge(0, 0, 2, 0, 0);
-        x.guard(1, 1, 1, 3);
-        x.guard(1, 2, 3, 3);
-        x.edge(0, 0, 3, 0, 0);
-        x.guard(2, 1, 0, 0);
-        x.edge(0, 0, 4, 0, 0);
-        x.guard(3, 1, 1, 0);
-        Due.be("empty moves: explore(120)", x.explore(120), 3);
-        Due.be("empty moves: state(1, 0)", x.state(1, 0), 2);
-        Due.be("empty moves: state(2, 0)", x.state(2, 0), 4);
-    }
-
-    /** Machines that walk freely through their first places: one state for each choice of them. */
-    private static ClockZones walkers(int a, int b, int c) {
-        ClockZones x = new ClockZones();
-        int[] places = {a, b, c};
-        for (int m = 0; m < 3; m++) {
-            for (int p = 1; p < places[m]; p++) {
-                x.edge(m, p - 1, p, 0, 0);
+    private static void boundOfAClockLessItself() {
+        Said.that("(x is y: 1.)");
+        ClockZones x = Nets.explored();
+        for (int i = 0; i < x.count(3); i++) {
+            for (int clock = 0; clock <= 3; clock++) {
+                Due.be("bound(" + i + ", " + clock + ", " + clock + ")", x.bound(i, clock, clock), 1);
             }
         }
-        return x;
     }
 
-    private static void longestWay() {
-        ClockZones x = new ClockZones();
-        x.edge(0, 0, 0, 0, 2);
-        x.guard(0, 1, 2, 1);
-        x.limit(0, 0, 1, 1, 1);
-        x.limit(2, 5, 2, 1, 1000);
-        Due.be("longest: explore(120)", x.explore(120), 41);
-        Due.be("longest: explore(41)", x.explore(41), 41);
-        Due.be("longest: explore(40)", x.explore(40), -41);
-        Due.be("longest: explore(120)", x.explore(120), 41);
-        Due.be("longest: state(40, 6)", x.state(40, 6), 40);
-        Due.be("longest: state(41, 6)", x.state(41, 6), UNKNOWN);
-        Due.be("longest: bound(40, 2, 1)", x.bound(40, 2, 1), 81);
-        Due.be("longest: moment(40, 39)", x.moment(40, 39), 2560);
-        Due.be("longest: moment(40, 40)", x.moment(40, 40), UNKNOWN);
-        Due.be("longest: way(40, 39, 0)", x.way(40, 39, 0), 0);
+    private static void boundRefusals() {
+        Refusals.Call bound = (x, a) -> x.bound(a[0], a[1], a[2]);
+        int[] clocks = Refusals.around(0, 3), states = Refusals.around(0, 119);
+        Said.that("STATE (100001),");
+        Refusals.all("new: bound", ClockZones::new, bound, a -> 100001, states, clocks, clocks);
+        Refusals.all("walked: bound", Nets::walked, bound, a -> 100001, states, clocks, clocks);
+        Said.that("UNKNOWN (100002).");
+        Refusals.all("none: bound", ExploreTest::stateless, bound, a -> 100002, states, clocks, clocks);
+        Refusals.all("bound", Nets::exploredAndWalked, bound, a ->
+            Refusals.in(a[0], 0, 15) && Refusals.in(a[1], 0, 3) && Refusals.in(a[2], 0, 3)
+                ? Refusals.ALLOWED : 100002, Refusals.around(0, 15), clocks, clocks);
+        Refusals.all("120 states: bound", ExploreTest::explored120, bound, a ->
+            Refusals.in(a[0], 0, 119) && Refusals.in(a[1], 0, 3) && Refusals.in(a[2], 0, 3)
+                ? Refusals.ALLOWED : 100002, states, clocks, clocks);
     }
 
-    private static void howManyAreKept() {
-        ClockZones x = walkers(6, 5, 4);
-        Due.be("kept: explore(120) of 120", x.explore(120), 120);
-        Due.be("kept: explore(119) of 120", x.explore(119), -120);
-        Due.be("kept: reach(5, 4, 3)", x.reach(5, 4, 3), NONE);
-        x.explore(120);
-        Due.be("kept: reach(5, 4, 3)", x.reach(5, 4, 3), 119);
-        Due.be("kept: state(119, 6)", x.state(119, 6), 12);
-        x = walkers(6, 5, 5);
-        Due.be("kept: explore(120)", x.explore(120), -121);
-        Due.be("kept: count(3)", x.count(3), 120);
-        Due.be("kept: state(119, 2)", x.state(119, 2) >= 0 ? 1 : 0, 1);
-        Due.be("kept: state(120, 2)", x.state(120, 2), UNKNOWN);
-        long[] first = new long[5];
-        for (int i = 0; i < 5; i++) {
-            first[i] = 100 * x.state(i, 3) + x.state(i, 4);
-        }
-        Due.be("kept: explore(5)", x.explore(5), -6);
-        Due.be("kept: count(3)", x.count(3), 5);
-        Due.be("kept: count(5)", x.count(5), 0);
-        for (int i = 0; i < 5; i++) {
-            Due.be("kept: state " + i, 100 * x.state(i, 3) + x.state(i, 4), first[i]);
-        }
-        Due.be("kept: state(5, 0)", x.state(5, 0), UNKNOWN);
-        ClockZones one = new ClockZones();
-        one.edge(0, 0, 1, 0, 0);
-        Due.be("kept: explore(1) of two", one.explore(1), -2);
-        Due.be("kept: explore(2) of two", one.explore(2), 2);
-    }
-
-    private static void howOften() {
-        ClockZones x = new ClockZones();
-        for (int i = 0; i < 40; i++) {
-            if (i == 20) {
-                x.wipe();
-            }
-            Due.be("often: explore(0)", x.explore(0), OUTSIDE);
-            Due.be("often: explore(3)", x.explore(3), 1);
-            Due.be("often: count(6)", x.count(6), i + 1);
-        }
-        Due.be("often: the 41st", x.explore(3), FULL);
-        Due.be("often: the 41st of 121", x.explore(121), OUTSIDE);
-        Due.be("often: the states stay", x.state(0, 6), 0);
-        Due.be("often: count(6)", x.count(6), 40);
-        x.wipe();
-        Due.be("often: behind wipe()", x.explore(3), FULL);
-        Due.be("often: count(5)", x.count(5), 1);
-    }
+    // ---- promise 9
 
     private static void reach() {
+        Said.that("The least STATE with these PLACES (-1: any): its number; NONE.");
         ClockZones x = new ClockZones();
         x.edge(0, 0, 5, 0, 0);
         x.edge(1, 0, 5, 0, 0);
         x.edge(2, 0, 5, 0, 0);
-        Due.be("reach: explore(120)", x.explore(120), 8);
-        Due.be("reach(-1, -1, -1)", x.reach(-1, -1, -1), 0);
-        Due.be("reach(5, -1, -1)", x.reach(5, -1, -1), 1);
-        Due.be("reach(-1, 5, -1)", x.reach(-1, 5, -1), 2);
-        Due.be("reach(-1, -1, 5)", x.reach(-1, -1, 5), 3);
-        Due.be("reach(5, 5, -1)", x.reach(5, 5, -1), 4);
-        Due.be("reach(5, 0, 5)", x.reach(5, 0, 5), 5);
-        Due.be("reach(0, 5, 5)", x.reach(0, 5, 5), 6);
-        Due.be("reach(5, 5, 5)", x.reach(5, 5, 5), 7);
-        Due.be("reach(1, -1, -1)", x.reach(1, -1, -1), NONE);
-        Due.be("reach(5, 4, 5)", x.reach(5, 4, 5), NONE);
-        for (int bad : new int[] {-2, 6, LEAST, MOST}) {
-            Due.be("reach(" + bad + ", 0, 0)", x.reach(bad, 0, 0), OUTSIDE);
-            Due.be("reach(0, " + bad + ", 0)", x.reach(0, bad, 0), OUTSIDE);
-            Due.be("reach(0, 0, " + bad + ")", x.reach(0, 0, bad), OUTSIDE);
+        Due.be("explore(120)", x.explore(120), 8);
+        int[][] due = {{-1, -1, -1, 0}, {0, 0, 0, 0}, {5, -1, -1, 1}, {-1, 5, -1, 2}, {-1, -1, 5, 3},
+            {5, 5, -1, 4}, {5, 0, 5, 5}, {0, 5, 5, 6}, {5, 5, 5, 7}, {1, -1, -1, NONE},
+            {5, 4, 5, NONE}, {-1, -1, 4, NONE}, {0, 0, 0, 0}};
+        for (int[] a : due) {
+            Due.be("reach(" + a[0] + ", " + a[1] + ", " + a[2] + ")", x.reach(a[0], a[1], a[2]), a[3]);
         }
+        x.explore(7);
+        Due.be("seven kept: reach(5, 5, 5)", x.reach(5, 5, 5), NONE);
+        Due.be("seven kept: reach(0, 5, 5)", x.reach(0, 5, 5), 6);
+        Due.be("none at all", stateless().reach(-1, -1, -1), NONE);
+        Due.be("the last of 120", explored120().reach(5, 4, 3), 119);
+        ClockZones two = new ClockZones();
+        two.edge(0, 0, 1, 0, 0);
+        two.guard(0, 1, 3, 2);
+        two.edge(0, 0, 1, 0, 0);
+        Due.be("two of the same places", two.explore(120), 3);
+        Due.be("the least of two", two.reach(1, 0, 0), 1);
     }
 
+    private static void reachRefusals() {
+        Refusals.Call reach = (x, a) -> x.reach(a[0], a[1], a[2]);
+        int[] places = {-1, 0, 5, -2, 6, LEAST, MOST};
+        Said.that("STATE;");
+        Refusals.all("new: reach", ClockZones::new, reach, a -> STATE, places, places, places);
+        Refusals.all("walked: reach", Nets::walked, reach, a -> STATE, places, places, places);
+        Said.that("OUTSIDE: one is not -1 to 5.");
+        Refusals.Rule inside = a -> Refusals.in(a[0], -1, 5) && Refusals.in(a[1], -1, 5)
+            && Refusals.in(a[2], -1, 5) ? Refusals.ALLOWED : OUTSIDE;
+        Refusals.all("reach", Nets::exploredAndWalked, reach, inside, places, places, places);
+        Refusals.all("none: reach", ExploreTest::stateless, reach, inside, places, places, places);
+    }
+
+    // ---- promise 10
+
     private static void has() {
+        Said.that("Whether amounts of CLOCKS 1, 2, 3, in 64ths, are in the ZONE of a STATE: 1, 0.");
         ClockZones x = new ClockZones();
         x.edge(0, 0, 1, 0, 4);
         x.guard(0, 1, 0, 2);
         x.guard(0, 1, 4, 1);
         x.limit(0, 1, 2, 1, 3);
         x.limit(1, 5, 3, 1, 1000);
-        Due.be("has: explore(9)", x.explore(9), 2);
+        Due.be("explore(9)", x.explore(9), 2);
         int[][] in = {{65, 0, 65}, {127, 0, 127}, {65 + 192, 192, 65 + 192}, {319, 192, 319}};
         int[][] out = {{64, 0, 64}, {128, 0, 128}, {65, 0, 66}, {66, 0, 65}, {320, 193, 320},
             {320, 192, 320}, {256, 192, 256}, {0, 0, 0}, {1000000, 1000000, 1000000}};
@@ -362,39 +359,49 @@ public final class ExploreTest {
             Due.be("has(1, " + a[0] + ", " + a[1] + ", " + a[2] + ")",
                 x.has(1, a[0], a[1], a[2]), 0);
         }
-        Due.be("has(0, most)", x.has(0, 1000000, 1000000, 1000000), 1);
-        Due.be("has(0, 999999, ..)", x.has(0, 999999, 1000000, 1000000), 0);
-        for (int bad : new int[] {-1, 1000001, LEAST, MOST}) {
-            Due.be("has(0, " + bad + ", 0, 0)", x.has(0, bad, 0, 0), OUTSIDE);
-            Due.be("has(0, 0, " + bad + ", 0)", x.has(0, 0, bad, 0), OUTSIDE);
-            Due.be("has(0, 0, 0, " + bad + ")", x.has(0, 0, 0, bad), OUTSIDE);
-            Due.be("has(2, " + bad + ", 0, 0)", x.has(2, bad, 0, 0), UNKNOWN);
-        }
+        x = new ClockZones();
+        x.limit(0, 0, 2, 1, 0);
+        x.explore(1);
+        Due.be("at most 0: has(0, 0, 0, 0)", x.has(0, 0, 0, 0), 1);
+        Due.be("at most 0: has(0, 1, 1, 1)", x.has(0, 1, 1, 1), 0);
     }
 
-    private static void refusals() {
+    private static void hasAtTheMost() {
         ClockZones x = new ClockZones();
-        for (int bad : new int[] {-1, 0, 121, LEAST, MOST}) {
-            Due.be("explore(" + bad + ")", x.explore(bad), OUTSIDE);
+        x.edge(0, 0, 1, 0, 2);
+        x.edge(0, 1, 2, 0, 4);
+        Due.be("explore(9)", x.explore(9), 3);
+        int most = 1000000;
+        Due.be("has(0, most)", x.has(0, most, most, most), 1);
+        Due.be("has(0, one less)", x.has(0, most - 1, most, most), 0);
+        Due.be("has(0, 0, 0, 0)", x.has(0, 0, 0, 0), 1);
+        Due.be("has(1, 0, most, most)", x.has(1, 0, most, most), 1);
+        Due.be("has(1, most, 0, 0)", x.has(1, most, 0, 0), 0);
+        Due.be("has(2, 0, 0, most)", x.has(2, 0, 0, most), 1);
+        Due.be("has(2, most, 0, most)", x.has(2, most, 0, most), 1);
+        Due.be("has(2, 0, most, most)", x.has(2, 0, most, most), 0);
+        Due.be("has(2, 0, 0, 0)", x.has(2, 0, 0, 0), 1);
+    }
+
+    private static int hasDue(int[] a, int states) {
+        if (!Refusals.in(a[0], 0, states - 1)) {
+            return UNKNOWN;
         }
-        Due.be("count(6) behind refusals", x.count(6), 0);
-        Due.be("count(5) behind refusals", x.count(5), 1);
-        Due.be("state(-1, -1) before", x.state(-1, -1), ClockZones.STATE);
-        Due.be("bound(-1, -1, -1) before", x.bound(-1, -1, -1), 100001);
-        Due.be("reach(9, 9, 9) before", x.reach(9, 9, 9), ClockZones.STATE);
-        Due.be("has(9, -1, 0, 0) before", x.has(9, -1, 0, 0), ClockZones.STATE);
-        x.explore(120);
-        for (int bad : new int[] {-1, 1, 120, LEAST, MOST}) {
-            Due.be("state(" + bad + ", 9)", x.state(bad, 9), UNKNOWN);
-            Due.be("bound(" + bad + ", 0, 0)", x.bound(bad, 0, 0), 100002);
-            Due.be("has(" + bad + ", 0, 0, 0)", x.has(bad, 0, 0, 0), UNKNOWN);
-        }
-        for (int bad : new int[] {-1, 7, LEAST, MOST}) {
-            Due.be("state(0, " + bad + ")", x.state(0, bad), OUTSIDE);
-        }
-        for (int bad : new int[] {-1, 4, LEAST, MOST}) {
-            Due.be("bound(0, " + bad + ", 0)", x.bound(0, bad, 0), 100002);
-            Due.be("bound(0, 0, " + bad + ")", x.bound(0, 0, bad), 100002);
-        }
+        boolean inside = Refusals.in(a[1], 0, 1000000) && Refusals.in(a[2], 0, 1000000)
+            && Refusals.in(a[3], 0, 1000000);
+        return inside ? Refusals.ALLOWED : OUTSIDE;
+    }
+
+    private static void hasRefusals() {
+        Refusals.Call has = (x, a) -> x.has(a[0], a[1], a[2], a[3]);
+        int[] amounts = Refusals.around(0, 1000000), states = Refusals.around(0, 119);
+        Said.that("STATE;");
+        Refusals.all("new: has", ClockZones::new, has, a -> STATE, states, amounts, amounts, amounts);
+        Said.that("UNKNOWN;");
+        Refusals.all("none: has", ExploreTest::stateless, has, a -> UNKNOWN,
+            states, amounts, amounts, amounts);
+        Said.that("OUTSIDE: one is below 0, or above 1000000.");
+        Refusals.all("has", Nets::exploredAndWalked, has, a -> hasDue(a, 16),
+            Refusals.around(0, 15), amounts, amounts, amounts);
     }
 }

@@ -3,7 +3,7 @@ import java.util.Random;
 /** Random runs of calls, right and wrong ones, each answer compared with that of PlainModel. */
 public final class ModelTest {
     private static final int RUNS = 3000;
-    private static final int CALLS = 500;
+    private static final int MOST_CALLS = 512;
 
     private final Random random;
     private final ClockZones x = new ClockZones();
@@ -13,6 +13,7 @@ public final class ModelTest {
     private final int mostNumber;
     private final int mostPlace;
     private final int oddOutOf;
+    private int calls;
 
     private ModelTest(int run) {
         this.run = run;
@@ -31,13 +32,20 @@ public final class ModelTest {
 
     private void go() {
         tellANet();
-        for (int call = random.nextInt(120); call < CALLS - 1 && !Due.isLost(); call++) {
+        // To wipe and tell anew takes the most calls at once, some 40.
+        while (calls < MOST_CALLS - 60 && !Due.isLost()) {
             call();
         }
-        due("digest()", x.digest(), model.digest());
+        while (calls < MOST_CALLS - 2) {
+            ask();
+        }
+        while (calls < MOST_CALLS) {
+            due("digest()", x.digest(), model.digest());
+        }
     }
 
     private void due(String call, long got, long want) {
+        calls++;
         Due.be("run " + run + ": " + call, got, want);
     }
 

@@ -13,11 +13,13 @@ public final class RegionTest {
     private static final int RUNS = 1500;
     private static final int ABOVE = -1;
 
-    private final ClockZones x = new ClockZones();
+    private final Asked asked = new Asked();
     private final PlainModel model = new PlainModel();
     private final Random random;
     private final String name;
     private final int[] greatest = new int[4];
+    /** The places of each state, as one number. */
+    private int[] placesOf;
 
     private RegionTest(int run) {
         random = new Random(run);
@@ -33,45 +35,53 @@ public final class RegionTest {
 
     private void go() {
         tell();
-        int all = x.explore(120);
+        int all = asked.tell(x -> x.explore(120));
         if (all < 0) {
             return;
         }
         boolean[] met = new boolean[216];
-        for (int i = 0; i < all; i++) {
-            if (x.state(i, 6) == 40) {
+        placesOf = new int[all];
+        for (int state = 0; state < all; state++) {
+            int i = state;
+            if (asked.ask(x -> x.state(i, 6)) == 40) {
                 return;
             }
-            met[36 * x.state(i, 0) + 6 * x.state(i, 1) + x.state(i, 2)] = true;
+            for (int m = 0; m < 3; m++) {
+                int machine = m;
+                placesOf[i] = 6 * placesOf[i] + asked.ask(x -> x.state(i, machine));
+            }
+            met[placesOf[i]] = true;
         }
         boolean[] due = search();
         for (int p = 0; p < 216; p++) {
             int a = p / 36, b = p / 6 % 6, c = p % 6;
             String places = name + ": places " + a + ", " + b + ", " + c;
             Due.be(places, met[p] ? 1 : 0, due[p] ? 1 : 0);
-            Due.be(places + " by reach()", x.reach(a, b, c) >= 0 ? 1 : 0, due[p] ? 1 : 0);
+            Due.be(places + " by reach()", asked.ask(x -> x.reach(a, b, c)) >= 0 ? 1 : 0, due[p] ? 1 : 0);
         }
     }
 
     private void tell() {
         int most = 1 + random.nextInt(3), places = 2 + random.nextInt(3);
-        for (int e = 0, edges = 4 + random.nextInt(10); e < edges; e++) {
+        int edges = 4 + random.nextInt(10);
+        for (int edge = 0; edge < edges; edge++) {
+            int e = edge;
             int m = random.nextInt(3), from = random.nextInt(Math.min(places, 1 + e / 3));
             int to = random.nextInt(places);
             int channel = random.nextInt(3) == 0 ? random.nextInt(3) - 1 : 0;
             int resets = 2 * (random.nextInt(8) & random.nextInt(8));
-            x.edge(m, from, to, channel, resets);
+            asked.tell(x -> x.edge(m, from, to, channel, resets));
             model.edge(m, from, to, channel, resets);
             for (int g = random.nextInt(3); g > 0; g--) {
                 int clock = 1 + random.nextInt(3), sort = random.nextInt(5), c = random.nextInt(most + 1);
-                x.guard(e, clock, sort, c);
+                asked.tell(x -> x.guard(e, clock, sort, c));
                 model.guard(e, clock, sort, c);
             }
         }
         for (int l = random.nextInt(6); l > 0; l--) {
             int m = random.nextInt(3), p = random.nextInt(places), clock = 1 + random.nextInt(3);
             int sort = random.nextInt(2), c = random.nextInt(most + 1);
-            x.limit(m, p, clock, sort, c);
+            asked.tell(x -> x.limit(m, p, clock, sort, c));
             model.limit(m, p, clock, sort, c);
         }
         for (int clock = 1; clock <= 3; clock++) {
@@ -112,10 +122,11 @@ public final class RegionTest {
         if (at[3] == ABOVE || at[4] == ABOVE || at[5] == ABOVE) {
             return;
         }
+        int places = 36 * at[0] + 6 * at[1] + at[2];
         boolean within = false;
-        for (int i = 0; i < x.count(3); i++) {
-            boolean same = x.state(i, 0) == at[0] && x.state(i, 1) == at[1] && x.state(i, 2) == at[2];
-            within |= same && x.has(i, 8 * at[3], 8 * at[4], 8 * at[5]) == 1;
+        for (int state = 0; state < placesOf.length && !within; state++) {
+            int i = state;
+            within = placesOf[i] == places && asked.ask(x -> x.has(i, 8 * at[3], 8 * at[4], 8 * at[5])) == 1;
         }
         Due.hold(name + ": " + Arrays.toString(at) + " is in a zone", within);
     }
