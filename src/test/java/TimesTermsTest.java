@@ -19,6 +19,7 @@ public final class TimesTermsTest {
         setBackOnTheWay();
         lateAllTheWayBack();
         allTestsOnTheLongestWay();
+        lastLimitOfTheLongestWay();
         longestWay();
         firstRefusals();
         unknown();
@@ -199,6 +200,40 @@ public final class TimesTermsTest {
         for (int k = 0; k < 40; k++) {
             Due.be("all tests: moment(40, " + k + ")", x.moment(40, k), 64 * (k + 1));
         }
+    }
+
+    private static void twice(ClockZones x, int e, int clock, int sort, int c) {
+        x.guard(e, clock, sort, c);
+        x.guard(e, clock, sort, c);
+    }
+
+    /**
+     * Behind 38 moves with all tests that there may be, the 39th sets clock 3 back, the 40th is 5
+     * behind the 38th, and the last limit of all has clock 3 at most 1: so the 39th has to wait.
+     */
+    private static void lastLimitOfTheLongestWay() {
+        ClockZones x = new ClockZones();
+        twice(x, x.edge(0, 0, 0, 1, 2), 1, 2, 1);
+        twice(x, x.edge(1, 0, 0, -1, 0), 1, 2, 1);
+        twice(x, x.edge(0, 0, 1, 2, 8), 1, 1, 5);
+        twice(x, x.edge(1, 0, 1, -2, 0), 1, 1, 5);
+        twice(x, x.edge(0, 1, 2, 3, 0), 1, 2, 5);
+        twice(x, x.edge(2, 0, 1, -3, 0), 1, 2, 5);
+        int[][] limits = {{0, 0, 1, 10}, {1, 0, 1, 10}, {2, 0, 1, 10}, {0, 1, 1, 10}, {1, 1, 1, 10},
+            {0, 2, 1, 10}, {2, 1, 3, 1}};
+        for (int[] l : limits) {
+            x.limit(l[0], l[1], l[2], 1, l[3]);
+            x.limit(l[0], l[1], l[2], 1, l[3]);
+        }
+        x.limit(0, 5, 2, 1, 1000);
+        Due.be("last limit: explore(120)", x.explore(120), 120);
+        Due.be("last limit: state(119, 0)", x.state(119, 0), 2);
+        Due.be("last limit: state(119, 6)", x.state(119, 6), 40);
+        for (int k = 0; k < 38; k++) {
+            Due.be("last limit: moment(119, " + k + ")", x.moment(119, k), 64 * (k + 1));
+        }
+        Due.be("last limit: moment(119, 38)", x.moment(119, 38), 64 * 42);
+        Due.be("last limit: moment(119, 39)", x.moment(119, 39), 64 * 43);
     }
 
     private static void longestWay() {
